@@ -1,0 +1,62 @@
+/** Counts and prints the calls whose answer is not the one that is due. */
+final class Checks {
+    /** A call that may throw. */
+    interface Call {
+        void run();
+    }
+
+    private int wrong;
+
+    void due(String call, long got, long want) {
+        if (got != want) {
+            wrong++;
+            System.out.println(call + " answered " + got + ", due is " + want);
+        }
+    }
+
+    /** The very class is asked for, so that nothing the machine throws below it passes. */
+    void dueThrow(String call, Class<? extends RuntimeException> want, Call what) {
+        String got = "nothing";
+        try {
+            what.run();
+        } catch (RuntimeException e) {
+            got = e.getClass().getName();
+        }
+        if (!got.equals(want.getName())) {
+            wrong++;
+            System.out.println(call + " threw " + got + ", due is " + want.getName());
+        }
+    }
+
+    void dueIllegal(String call, Call what) {
+        dueThrow(call, IllegalArgumentException.class, what);
+    }
+
+    void place(String when, PlaceTests p, int x, int y, int[] want) {
+        for (int what = 0; what < 3; what++) {
+            due(when + ": at(" + x + ", " + y + ", " + what + ")", p.at(x, y, what), want[what]);
+        }
+    }
+
+    void end() {
+        if (wrong != 0) {
+            System.out.println(wrong + " answers are not as due");
+            System.exit(1);
+        }
+    }
+
+    static int colour(int r, int g, int b, int a) {
+        return a << 24 | b << 16 | g << 8 | r;
+    }
+
+    /** A fixed number whose byte is the one that is asked for. */
+    static int fixed(int value) {
+        return (value * 65536 + 127) / 255;
+    }
+
+    /** Draws the place with the colour's bytes, at depth 0, in front. */
+    static int drawBytes(PlaceTests p, int x, int y, int colour) {
+        return p.draw(x, y, 0, 0, fixed(colour & 255), fixed(colour >>> 8 & 255),
+                fixed(colour >>> 16 & 255), fixed(colour >>> 24));
+    }
+}
