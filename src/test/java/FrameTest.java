@@ -30,6 +30,9 @@ public final class FrameTest {
         }
         CHECKS.due("new: clear", p.clear(7, 0x12345678, 9, 200), 1);
         CHECKS.place("all is cleared", p, 0, 0, new int[] {0x12345678, 9, 200});
+        CHECKS.due("of one place: sum(0)", p.sum(0), 0x12345678);
+        CHECKS.due("of one place: sum(1)", p.sum(1), 9);
+        CHECKS.due("of one place: sum(2)", p.sum(2), 200);
     }
 
     private static void newFrameIsEmptyAndKeepsRules() {
