@@ -6,11 +6,21 @@ final class Checks {
     }
 
     private int wrong;
+    private String sentence = "";
+
+    /** The document's words that the next calls hold to; they are printed with a wrong answer. */
+    void sentence(String words) {
+        sentence = "'" + words + "': ";
+    }
+
+    private void tell(String what) {
+        wrong++;
+        System.out.println(sentence + what);
+    }
 
     void due(String call, long got, long want) {
         if (got != want) {
-            wrong++;
-            System.out.println(call + " answered " + got + ", due is " + want);
+            tell(call + " answered " + got + ", due is " + want);
         }
     }
 
@@ -23,8 +33,7 @@ final class Checks {
             got = e.getClass().getName();
         }
         if (!got.equals(want.getName())) {
-            wrong++;
-            System.out.println(call + " threw " + got + ", due is " + want.getName());
+            tell(call + " threw " + got + ", due is " + want.getName());
         }
     }
 
@@ -35,6 +44,14 @@ final class Checks {
     void place(String when, PlaceTests p, int x, int y, int[] want) {
         for (int what = 0; what < 3; what++) {
             due(when + ": at(" + x + ", " + y + ", " + what + ")", p.at(x, y, what), want[what]);
+        }
+    }
+
+    void outside(String when, PlaceTests p, int x, int y) {
+        for (int what = 0; what < 3; what++) {
+            int asked = what;
+            dueThrow(when + ": at(" + x + ", " + y + ", " + what + ")",
+                    IndexOutOfBoundsException.class, () -> p.at(x, y, asked));
         }
     }
 

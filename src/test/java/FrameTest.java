@@ -153,11 +153,7 @@ public final class FrameTest {
 
     private static void outside(String when, PlaceTests p, int[][] places) {
         for (int[] place : places) {
-            for (int what = 0; what < 3; what++) {
-                int asked = what;
-                CHECKS.dueThrow(when + ": at(" + place[0] + ", " + place[1] + ", " + what + ")",
-                        IndexOutOfBoundsException.class, () -> p.at(place[0], place[1], asked));
-            }
+            CHECKS.outside(when, p, place[0], place[1]);
         }
     }
 }
