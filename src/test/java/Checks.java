@@ -24,6 +24,12 @@ final class Checks {
         }
     }
 
+    void dueText(String call, String got, String want) {
+        if (!got.equals(want)) {
+            tell(call + " answered " + got + ", due is " + want);
+        }
+    }
+
     /** The very class is asked for, so that nothing the machine throws below it passes. */
     void dueThrow(String call, Class<? extends RuntimeException> want, Call what) {
         String got = "nothing";
