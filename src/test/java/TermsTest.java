@@ -98,6 +98,7 @@ public final class TermsTest {
                 draw(1, 3, 0), draw(5, 3, 0), draw(2, 2, 0), draw(2, 7, 0),
                 "scissors(5, 3, 4, 7)", "clear(0, 0, 0, 0) -> 64",
                 draw(1, 3, 3), draw(5, 3, 3), draw(2, 2, 3), draw(2, 7, 3),
+                "scissors(2, 3, 2, 7)", "clear(0, 0, 0, 0) -> 0", draw(2, 3, 0),
                 "scissors(2, 3, 5, 2)", "clear(0, 0, 0, 0) -> 0", draw(2, 3, 0));
     }
 
